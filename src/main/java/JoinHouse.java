@@ -197,7 +197,7 @@ public final class JoinHouse {
         }
 
         int value(int table, int row, int column) {
-            return cells[cellAt(table, row, column)];
+            return cells[(table * MOST_ROWS + row) * COLUMNS + column];
         }
 
         int spread(int table, int column) {
@@ -212,7 +212,7 @@ public final class JoinHouse {
             if (!hasValue(table, column, value)) {
                 unlike[table * COLUMNS + column]++;
             }
-            cells[cellAt(table, counts[table], column)] = value;
+            cells[(table * MOST_ROWS + counts[table]) * COLUMNS + column] = value;
         }
 
         private boolean hasValue(int table, int column, int value) {
@@ -222,10 +222,6 @@ public final class JoinHouse {
                 }
             }
             return false;
-        }
-
-        private static int cellAt(int table, int row, int column) {
-            return (table * MOST_ROWS + row) * COLUMNS + column;
         }
     }
 
@@ -239,6 +235,7 @@ public final class JoinHouse {
         private final int[] seconds = new int[MOST_CONDITIONS];
         /** The second side's column, or the int of a NUMBER, which has NONE as its second generator. */
         private final int[] secondColumns = new int[MOST_CONDITIONS];
+        private final int[] needed = new int[MOST_CONDITIONS];
         private int generators = 0;
         private int conditions = 0;
 
@@ -261,6 +258,7 @@ public final class JoinHouse {
             firstColumns[added] = firstColumn;
             seconds[added] = second;
             secondColumns[added] = secondColumn;
+            needed[added] = second == NONE ? 1 << first : 1 << first | 1 << second;
             conditions = added + 1;
             return added;
         }
@@ -270,8 +268,7 @@ public final class JoinHouse {
         }
 
         boolean isWithin(int condition, int set) {
-            return isIn(set, firsts[condition])
-                    && (seconds[condition] == NONE || isIn(set, seconds[condition]));
+            return (needed[condition] & ~set) == 0;
         }
 
         /** Whether a condition can first be judged when a generator comes to those ahead of it. */
@@ -508,7 +505,8 @@ public final class JoinHouse {
             int ahead = 0;
             for (int place = 0; place < generators; place++) {
                 int generator = planner.order[place];
-                if (!goTo(generator, ahead)) {
+                sieve.prepare(planner.query, generator, ahead);
+                if (!goTo(generator, planner.conditionFor(generator, ahead))) {
                     return false;
                 }
                 ahead |= 1 << generator;
@@ -526,12 +524,9 @@ public final class JoinHouse {
             looked = 0;
         }
 
-        private boolean goTo(int generator, int ahead) {
-            Query query = planner.query;
-            int rows = query.rowsOf(generator);
-            int by = planner.conditionFor(generator, ahead);
-            sieve.prepare(query, generator, ahead);
-            if (by != NONE && !query.tellsByIndex(by, generator)) {
+        private boolean goTo(int generator, int by) {
+            int rows = planner.query.rowsOf(generator);
+            if (by != NONE && !planner.query.tellsByIndex(by, generator)) {
                 looked += rows;
             }
             int made = 0;
@@ -560,7 +555,7 @@ public final class JoinHouse {
             return next;
         }
 
-        /** Keeps the order of choices with like rows, so that sorting from the last generator to the first is enough. */
+        /** Leaves choices with like rows in their order, so that sorting by each generator, the last first, is enough. */
         private void sortBy(int generator) {
             Arrays.fill(starts, 0);
             for (int i = 0; i < count; i++) {

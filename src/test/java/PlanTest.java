@@ -233,6 +233,14 @@ public final class PlanTest {
             house.number(1, 3, 0);
             house.equal(0, 0, 1, 2);
         });
+        lookedAfter(house, 1 + 6 + 2, () -> {
+            house.equal(0, 0, 1, 2);
+            house.equal(0, 0, 1, 3);
+        });
+        lookedAfter(house, 1 + 6 + 1, () -> {
+            house.equal(0, 0, 1, 3);
+            house.equal(0, 0, 1, 2);
+        });
         lookedAfter(house, 1 + 6, () -> house.number(1, 3, 0));
         lookedAfter(house, 1 + 6, () -> house.less(0, 0, 1, 0));
     }
