@@ -555,7 +555,7 @@ public final class JoinHouse {
             return next;
         }
 
-        /** Leaves choices with like rows in their order, so that sorting by each generator, the last first, is enough. */
+        /** Leaves choices with like rows in their order, so that a sort by each generator, the last first, is enough. */
         private void sortBy(int generator) {
             Arrays.fill(starts, 0);
             for (int i = 0; i < count; i++) {
