@@ -8,10 +8,22 @@ final class Due {
         void go();
     }
 
+    private static String sentence = "";
     private static int wrong = 0;
     private static int seen = 0;
 
     private Due() {
+    }
+
+    /** The sentence that the answers from now on are held against. */
+    static void about(String where, String words) {
+        sentence = "";
+        Document.name(where, words);
+        sentence = where + ", \"" + words + "\": ";
+    }
+
+    static void aboutNoSentence() {
+        sentence = "";
     }
 
     static void is(String what, Call call, int want) {
@@ -35,7 +47,7 @@ final class Due {
         if (!got.equals(want)) {
             wrong++;
             if (wrong <= 40) {
-                System.out.println(what + " answered " + got + ", due is " + want);
+                System.out.println(sentence + what + " answered " + got + ", due is " + want);
             }
         }
     }

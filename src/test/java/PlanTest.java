@@ -19,7 +19,7 @@ public final class PlanTest {
     }
 
     private static void smallestFirst() {
-        JoinHouse house = new JoinHouse();
+        House house = new House();
         fill(house, 0, 5, 1);
         fill(house, 1, 3, 1);
         fill(house, 2, 4, 1);
@@ -33,7 +33,7 @@ public final class PlanTest {
 
     /** Beginning with the smallest table costs more than with one that a condition joins to the rest. */
     private static void leastSumNotGreedy() {
-        JoinHouse house = new JoinHouse();
+        House house = new House();
         fill(house, 0, 2, 1);
         fill(house, 1, 10, 10);
         fill(house, 2, 10, 10);
@@ -47,7 +47,7 @@ public final class PlanTest {
     }
 
     private static void tiesByNumbers() {
-        JoinHouse house = new JoinHouse();
+        House house = new House();
         fill(house, 0, 4, 2);
         for (int generator = 0; generator < 6; generator++) {
             house.generator(0);
@@ -66,7 +66,7 @@ public final class PlanTest {
     }
 
     private static void asThingsAreNow() {
-        JoinHouse house = new JoinHouse();
+        House house = new House();
         fill(house, 0, 2, 2);
         fill(house, 1, 3, 3);
         house.generator(0);
@@ -95,7 +95,7 @@ public final class PlanTest {
     }
 
     private static void sizesRoundUp() {
-        JoinHouse house = new JoinHouse();
+        House house = new House();
         fill(house, 0, 10, 1);
         house.generator(0);
         int[] want = {4, 2, 1, 1};
@@ -113,7 +113,7 @@ public final class PlanTest {
     }
 
     private static void sizeOfEqual() {
-        JoinHouse house = new JoinHouse();
+        House house = new House();
         fill(house, 0, 7, 3);
         fill(house, 1, 8, 5);
         house.generator(0);
@@ -136,7 +136,7 @@ public final class PlanTest {
     }
 
     private static void sizeWithoutRows() {
-        JoinHouse house = new JoinHouse();
+        House house = new House();
         fill(house, 0, 4, 4);
         house.generator(0);
         house.generator(1);
@@ -152,7 +152,7 @@ public final class PlanTest {
     }
 
     private static void greatestSize() {
-        JoinHouse house = new JoinHouse();
+        House house = new House();
         fill(house, 0, 30, 1);
         for (int generator = 0; generator < 6; generator++) {
             house.generator(0);
@@ -168,7 +168,7 @@ public final class PlanTest {
     }
 
     private static void indexByNumber() {
-        JoinHouse house = new JoinHouse();
+        House house = new House();
         house.table(0, 2);
         fill(house, 0, 3, 3);
         house.generator(0);
@@ -179,7 +179,7 @@ public final class PlanTest {
     }
 
     private static void indexByEqual() {
-        JoinHouse house = new JoinHouse();
+        House house = new House();
         house.table(1, 4);
         fill(house, 0, 2, 2);
         fill(house, 1, 9, 3);
@@ -209,7 +209,7 @@ public final class PlanTest {
 
     /** Two conditions that tell a value: looks() shows by which of them it went. */
     private static void firstConditionWins() {
-        JoinHouse house = new JoinHouse();
+        House house = new House();
         house.table(1, 3);
         house.row(0, 5, 6, 0, 0);
         for (int row = 0; row < 6; row++) {
@@ -245,7 +245,7 @@ public final class PlanTest {
         lookedAfter(house, 1 + 6, () -> house.less(0, 0, 1, 0));
     }
 
-    private static void lookedAfter(JoinHouse house, int want, Due.Act conditions) {
+    private static void lookedAfter(House house, int want, Due.Act conditions) {
         house.clear();
         house.generator(0);
         house.generator(1);
@@ -256,7 +256,7 @@ public final class PlanTest {
     }
 
     private static void methodTwo() {
-        JoinHouse house = new JoinHouse();
+        House house = new House();
         fill(house, 0, 2, 2);
         fill(house, 1, 3, 3);
         fill(house, 2, 4, 4);
@@ -275,7 +275,7 @@ public final class PlanTest {
     }
 
     private static void ownColumnsTellNothing() {
-        JoinHouse house = new JoinHouse();
+        House house = new House();
         house.table(0, 15);
         fill(house, 0, 4, 2);
         house.generator(0);
@@ -287,7 +287,7 @@ public final class PlanTest {
     }
 
     private static void refusals() {
-        JoinHouse house = new JoinHouse();
+        House house = new House();
         fill(house, 0, 2, 2);
         for (int generators = 0; generators <= 6; generators++) {
             for (int place : new int[] {-1, generators, generators + 1, 6, Integer.MIN_VALUE, Integer.MAX_VALUE}) {
@@ -304,13 +304,13 @@ public final class PlanTest {
     }
 
     /** Rows whose column 0 and 2 have some unlike values and whose columns 1 and 3 have one. */
-    private static void fill(JoinHouse house, int table, int rows, int spread) {
+    private static void fill(House house, int table, int rows, int spread) {
         for (int row = 0; row < rows; row++) {
             house.row(table, row % spread, 0, row % spread, 0);
         }
     }
 
-    private static void plan(JoinHouse house, int... want) {
+    private static void plan(House house, int... want) {
         for (int place = 0; place < want.length; place++) {
             int at = place;
             Due.is("plan at " + place, () -> house.plan(at), want[place]);
@@ -318,14 +318,14 @@ public final class PlanTest {
         Due.noSuch("plan beyond", () -> house.plan(want.length));
     }
 
-    private static void sizes(JoinHouse house, int... want) {
+    private static void sizes(House house, int... want) {
         for (int place = 0; place < want.length; place++) {
             int at = place;
             Due.is("size at " + place, () -> house.size(at), want[place]);
         }
     }
 
-    private static void methods(JoinHouse house, int... want) {
+    private static void methods(House house, int... want) {
         for (int place = 0; place < want.length; place++) {
             int at = place;
             Due.is("method at " + place, () -> house.method(at), want[place]);

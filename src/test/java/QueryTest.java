@@ -16,7 +16,7 @@ public final class QueryTest {
     }
 
     private static void clearing() {
-        JoinHouse house = sample();
+        House house = sample();
         house.generator(0);
         house.generator(1);
         house.equal(0, 0, 1, 0);
@@ -41,7 +41,7 @@ public final class QueryTest {
     }
 
     private static void generators() {
-        JoinHouse house = new JoinHouse();
+        House house = new House();
         int[] tables = {5, 0, 5, 5, 3, 0};
         for (int row = 0; row < 2; row++) {
             house.row(0, row, 0, 0, 0);
@@ -64,7 +64,7 @@ public final class QueryTest {
     }
 
     private static void generatorRefuses() {
-        JoinHouse house = sample();
+        House house = sample();
         house.generator(0);
         house.run();
         String before = State.of(house);
@@ -85,7 +85,7 @@ public final class QueryTest {
     }
 
     private static void equalHolds() {
-        JoinHouse house = sample();
+        House house = sample();
         house.generator(0);
         house.generator(1);
         house.equal(1, 1, 0, 2);
@@ -107,7 +107,7 @@ public final class QueryTest {
     }
 
     private static void numberHolds() {
-        JoinHouse house = sample();
+        House house = sample();
         house.generator(0);
         house.number(0, 3, Integer.MIN_VALUE);
         Due.is("least int", house::run, 1);
@@ -123,7 +123,7 @@ public final class QueryTest {
     }
 
     private static void lessHolds() {
-        JoinHouse house = sample();
+        House house = sample();
         house.generator(0);
         house.generator(0);
         house.less(1, 3, 0, 3);
@@ -139,7 +139,7 @@ public final class QueryTest {
     }
 
     private static void conditionsAreNumbered() {
-        JoinHouse house = sample();
+        House house = sample();
         house.generator(0);
         house.generator(1);
         for (int condition = 0; condition < 12; condition += 3) {
@@ -162,7 +162,7 @@ public final class QueryTest {
     }
 
     private static void conditionsRefuse() {
-        JoinHouse house = sample();
+        House house = sample();
         house.generator(0);
         house.generator(1);
         house.equal(0, 0, 1, 0);
@@ -188,8 +188,8 @@ public final class QueryTest {
         Due.is("the next condition", () -> house.number(0, 0, 0), 1);
     }
 
-    private static JoinHouse sample() {
-        JoinHouse house = new JoinHouse();
+    private static House sample() {
+        House house = new House();
         house.row(0, 1, 0, 7, 0);
         house.row(0, 2, 2, 6, Integer.MAX_VALUE);
         house.row(0, 3, 4, 5, Integer.MIN_VALUE);
@@ -199,7 +199,7 @@ public final class QueryTest {
         return house;
     }
 
-    private static void ways(JoinHouse house, int[][] want) {
+    private static void ways(House house, int[][] want) {
         for (int way = 0; way < want.length; way++) {
             for (int generator = 0; generator < want[way].length; generator++) {
                 int at = way;

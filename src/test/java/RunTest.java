@@ -16,7 +16,7 @@ public final class RunTest {
     }
 
     private static void nothing() {
-        JoinHouse house = new JoinHouse();
+        House house = new House();
         rows(house, 0, 3);
         Due.is("a run of no generators", house::run, 0);
         Due.is("its looks", house::looks, 0);
@@ -30,7 +30,7 @@ public final class RunTest {
     }
 
     private static void noRows() {
-        JoinHouse house = new JoinHouse();
+        House house = new House();
         rows(house, 0, 4);
         house.generator(0);
         house.generator(1);
@@ -41,7 +41,7 @@ public final class RunTest {
 
     /** The plan goes to generator 2, then 1, then 0; the ways go by 0, then 1, then 2. */
     private static void waysInOrder() {
-        JoinHouse house = new JoinHouse();
+        House house = new House();
         rows(house, 0, 4);
         rows(house, 1, 3);
         rows(house, 2, 2);
@@ -62,7 +62,7 @@ public final class RunTest {
 
     private static void looksByEachMethod() {
         for (int method = 1; method <= 3; method++) {
-            JoinHouse house = new JoinHouse();
+            House house = new House();
             house.table(1, method == 1 ? 1 : 0);
             house.row(0, 1, 2, 0, 0);
             house.row(0, 2, 2, 0, 0);
@@ -84,7 +84,7 @@ public final class RunTest {
             Due.is("run by " + method, house::run, method == 3 ? 9 : 2);
             Due.is("looks by " + method, house::looks, 3 + (method == 1 ? 3 : method == 2 ? 4 + 3 : 3 * 4));
         }
-        JoinHouse house = new JoinHouse();
+        House house = new House();
         house.table(0, 8);
         house.row(0, 0, 0, 0, 5);
         house.row(0, 1, 0, 0, 5);
@@ -112,7 +112,7 @@ public final class RunTest {
     }
 
     private static void looksWithoutChoices() {
-        JoinHouse house = new JoinHouse();
+        House house = new House();
         house.row(0, 0, 0, 0, 0);
         for (int row = 0; row < 5; row++) {
             house.row(1, row, row, 0, 0);
@@ -136,7 +136,7 @@ public final class RunTest {
     }
 
     private static void threeThousand() {
-        JoinHouse house = new JoinHouse();
+        House house = new House();
         rows(house, 0, 10);
         rows(house, 1, 10);
         rows(house, 2, 30);
@@ -158,7 +158,7 @@ public final class RunTest {
     }
 
     private static void tooManyAtTheEnd() {
-        JoinHouse house = new JoinHouse();
+        House house = new House();
         rows(house, 0, 29);
         rows(house, 1, 29);
         rows(house, 2, 4);
@@ -187,7 +187,7 @@ public final class RunTest {
 
     /** Too many on the way are refused, though in the end there would be none at all. */
     private static void tooManyOnTheWay() {
-        JoinHouse house = new JoinHouse();
+        House house = new House();
         for (int row = 0; row < 30; row++) {
             house.row(0, row < 25 ? 0 : row, 0, row, 0);
             house.row(1, 100, 0, row, 0);
@@ -213,7 +213,7 @@ public final class RunTest {
     }
 
     private static void runIsKept() {
-        JoinHouse house = new JoinHouse();
+        House house = new House();
         house.row(0, 1, 0, 0, 0);
         house.row(0, 2, 0, 0, 0);
         house.generator(0);
@@ -237,7 +237,7 @@ public final class RunTest {
     }
 
     private static void sixGenerators() {
-        JoinHouse house = new JoinHouse();
+        House house = new House();
         for (int row = 0; row < 30; row++) {
             house.row(0, row, row + 1, 0, 0);
         }
@@ -259,7 +259,7 @@ public final class RunTest {
     }
 
     private static void wayRefuses() {
-        JoinHouse house = new JoinHouse();
+        House house = new House();
         rows(house, 0, 2);
         house.generator(0);
         house.generator(0);
@@ -278,7 +278,7 @@ public final class RunTest {
         Due.noSuch("a generator that came after the run", () -> house.way(0, 2));
     }
 
-    private static void rows(JoinHouse house, int table, int rows) {
+    private static void rows(House house, int table, int rows) {
         for (int row = 0; row < rows; row++) {
             house.row(table, row, 0, 0, 0);
         }

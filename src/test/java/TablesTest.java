@@ -16,7 +16,7 @@ public final class TablesTest {
     }
 
     private static void newObject() {
-        JoinHouse house = new JoinHouse();
+        House house = new House();
         Due.is("looks of a new object", house::looks, 0);
         Due.noSuch("plan of a new object", () -> house.plan(0));
         Due.noSuch("method of a new object", () -> house.method(0));
@@ -42,11 +42,11 @@ public final class TablesTest {
     }
 
     private static void newObjectsAreApart() {
-        JoinHouse one = new JoinHouse();
+        House one = new House();
         one.row(0, 1, 1, 1, 1);
         one.generator(0);
         one.run();
-        JoinHouse other = new JoinHouse();
+        House other = new House();
         Due.noSuch("another object's query", () -> other.plan(0));
         Due.is("another object's looks", other::looks, 0);
         Due.is("another object's row", () -> other.row(0, 1, 1, 1, 1), 0);
@@ -54,7 +54,7 @@ public final class TablesTest {
     }
 
     private static void tableEmpties() {
-        JoinHouse house = new JoinHouse();
+        House house = new House();
         for (int table = 0; table < 6; table++) {
             house.row(table, table, 0, 0, 0);
             house.row(table, 9, 0, 0, 0);
@@ -74,7 +74,7 @@ public final class TablesTest {
 
     private static void tableSetsIndexes() {
         for (int bits = 0; bits < 16; bits++) {
-            JoinHouse house = new JoinHouse();
+            House house = new House();
             house.table(4, 15 - bits);
             house.table(4, bits);
             house.row(4, 1, 1, 1, 1);
@@ -92,7 +92,7 @@ public final class TablesTest {
     }
 
     private static void tableRefuses() {
-        JoinHouse house = filled();
+        House house = filled();
         String before = State.of(house);
         for (int table : WRONG_TABLES) {
             Due.illegal("table " + table, Due.of(() -> house.table(table, 0)));
@@ -107,7 +107,7 @@ public final class TablesTest {
     }
 
     private static void rowsAreNumbered() {
-        JoinHouse house = new JoinHouse();
+        House house = new House();
         for (int row = 0; row < 30; row++) {
             int at = row;
             for (int table = 0; table < 6; table++) {
@@ -125,7 +125,7 @@ public final class TablesTest {
     }
 
     private static void rowRefuses() {
-        JoinHouse house = filled();
+        House house = filled();
         for (int row = 2; row < 30; row++) {
             house.row(0, row, row, row, row);
         }
@@ -145,7 +145,7 @@ public final class TablesTest {
     private static void spreads() {
         int[] values = {0, -1, Integer.MAX_VALUE, Integer.MIN_VALUE, 1, 65536, 256};
         for (int spread = 1; spread <= values.length; spread++) {
-            JoinHouse house = new JoinHouse();
+            House house = new House();
             for (int row = 0; row < 30; row++) {
                 int value = values[row % spread];
                 house.row(1, value, 5, value, row);
@@ -158,7 +158,7 @@ public final class TablesTest {
             house.number(0, 3, 5);
             Due.is("a spread of thirty", () -> house.size(0), 1);
         }
-        JoinHouse house = new JoinHouse();
+        House house = new House();
         house.row(0, 1, 1, 1, 1);
         house.row(0, 2, 2, 2, 2);
         house.table(0, 0);
@@ -176,8 +176,8 @@ public final class TablesTest {
         Due.is("seven by three", () -> house.size(0), 3);
     }
 
-    private static JoinHouse filled() {
-        JoinHouse house = new JoinHouse();
+    private static House filled() {
+        House house = new House();
         house.table(0, 1);
         house.row(0, 1, 2, 3, 4);
         house.row(0, 1, 5, 6, 7);
