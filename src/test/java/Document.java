@@ -9,6 +9,7 @@ final class Document {
     private static final Path PATH = Path.of("..", "shared", "DOC.md");
     private static final Map<String, String> TEXTS = new HashMap<>();
     private static final Map<String, boolean[]> NAMED = new HashMap<>();
+    private static boolean isRead = false;
     private static int sentences = 0;
 
     private Document() {
@@ -68,9 +69,10 @@ final class Document {
     }
 
     private static void read() {
-        if (!TEXTS.isEmpty()) {
+        if (isRead) {
             return;
         }
+        isRead = true;
         if (!Files.isReadable(PATH)) {
             System.out.println("there is no " + PATH + ": what the tests quote is not looked up");
             return;
