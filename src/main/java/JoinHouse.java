@@ -338,8 +338,7 @@ public final class JoinHouse {
             for (int set = 0; set <= all; set++) {
                 sizes[set] = sizeOf(set);
             }
-            leastAfter[all] = 0;
-            for (int set = all - 1; set >= 0; set--) {
+            for (int set = all; set >= 0; set--) {
                 leastAfter[set] = sumFrom(set, bestAfter(set));
             }
             int ahead = 0;
@@ -421,7 +420,11 @@ public final class JoinHouse {
             return best;
         }
 
+        /** The sum of the sizes after a set if a generator comes next; after the full set NONE comes. */
         private int sumFrom(int set, int generator) {
+            if (generator == NONE) {
+                return 0;
+            }
             int next = set | 1 << generator;
             return sizes[next] + leastAfter[next];
         }

@@ -2,7 +2,7 @@ import java.util.List;
 import java.util.Set;
 import java.util.TreeSet;
 
-/** What the document says of all calls: such as throw change nothing, and 512 of them are answered. */
+/** What the document says of the whole and of all calls: such as throw change nothing, and 512 of them are answered. */
 final class CallEdges {
     private record Call(String name, Refused.Call call) {
     }
@@ -41,6 +41,7 @@ final class CallEdges {
     }
 
     static void all() {
+        whatItIs();
         eachChangesNothing();
         allChangeNothing();
         manyRuns();
@@ -50,6 +51,35 @@ final class CallEdges {
         manyQuestions();
         manyWays();
         manyRefusals();
+        laterCalls();
+    }
+
+    private static void whatItIs() {
+        Due.about("What it is", "Rows of tables joined by conditions: the order in which tables are gone to, by the sizes"
+                + " that are to be expected; each by an index, by rows put under their values, or gone through;"
+                + " what comes of it in the query's own order.");
+        House house = new House();
+        house.table(1, 1);
+        for (int row = 0; row < 8; row++) {
+            house.row(2, 0, row % 4, 0, 0);
+        }
+        for (int row = 0; row < 6; row++) {
+            house.row(1, row % 3, row, 0, 0);
+        }
+        Edge.rows(house, 0, 3);
+        Edge.query(house, 2, 1, 0);
+        house.equal(1, 0, 2, 0);
+        house.equal(0, 1, 1, 1);
+        Edge.plan(house, 2, 1, 0);
+        Edge.sizes(house, 3, 6, 8);
+        Edge.methods(house, 3, 1, 2);
+        Edge.run("three tables", house, 8, 3 + 6 + (8 + 8));
+        for (int way = 0; way < 8; way++) {
+            int at = way;
+            Due.is("way(" + at + ", 0)", () -> house.way(at, 0), at);
+            Due.is("way(" + at + ", 1)", () -> house.way(at, 1), at % 4);
+            Due.is("way(" + at + ", 2)", () -> house.way(at, 2), at % 4 % 3);
+        }
     }
 
     private static House cleared() {
@@ -194,5 +224,21 @@ final class CallEdges {
         Due.is("generator()", () -> house.generator(5), 0);
         Due.is("run()", house::run, 1);
         Due.is("the 512th call", () -> house.way(0, 0), 0);
+    }
+
+    /** They may answer anything, but LANGUAGE.md lets none of them throw by itself. */
+    private static void laterCalls() {
+        Due.about("What it is", "what later calls answer is free.");
+        JoinHouse house = new JoinHouse();
+        Set<String> thrown = new TreeSet<>();
+        for (int call = 0; call < 2000; call++) {
+            int at = call;
+            thrown.add(Due.answerOf(Due.of(() -> house.row(at % 6, at, at, at, at))));
+            thrown.add(Due.answerOf(Due.of(() -> house.generator(at % 6))));
+            thrown.add(Due.answerOf(Due.of(() -> house.less(at % 6, 0, 0, 1))));
+            thrown.add(Due.answerOf(Due.of(house::run)));
+        }
+        thrown.removeAll(Set.of("0", "throws.UnsupportedOperationException", "throws.IllegalArgumentException"));
+        Due.same("what no call may throw", thrown.toString(), "[]");
     }
 }

@@ -16,6 +16,7 @@ public final class EdgesTest {
 
     private static void everySentenceIsNamed() {
         Due.aboutNoSentence();
+        Document.isAllNamed("What it is");
         Document.isAllNamed("Terms");
         for (int promise = 1; promise <= 14; promise++) {
             Document.isAllNamed("Promise " + promise);
