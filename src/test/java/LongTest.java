@@ -52,12 +52,20 @@ public final class LongTest {
     }
 
     private void go() {
+        askNew();
         for (int table = 0; table < 6; table++) {
             fill(table, someRows());
         }
         while (both.callsLeft() > 0) {
             round(random.nextInt(6));
         }
+    }
+
+    private void askNew() {
+        askPlan();
+        askRun();
+        both.generator(random.nextInt(6));
+        both.number(random.nextInt(2), 0, value());
     }
 
     private void round(int kind) {
@@ -121,7 +129,7 @@ public final class LongTest {
             int table = random.nextInt(6);
             both.generator(rows[table] >= 4 ? table : most);
         }
-        conditions(random.nextInt(3), 6);
+        conditions(random.nextInt(8) == 0 ? 13 : random.nextInt(3), 6);
     }
 
     private void shortQuery() {
@@ -168,12 +176,15 @@ public final class LongTest {
         askRun();
     }
 
+    /** In any order: none of the three may lean on one of the others having been asked. */
     private void askPlan() {
-        int first = random.nextInt(7);
-        for (int place = first; place < first + 2; place++) {
-            both.plan(place);
-            both.method(place);
-            both.size(place);
+        for (int question = 0; question < 6; question++) {
+            int place = random.nextInt(7);
+            switch (random.nextInt(3)) {
+                case 0 -> both.plan(place);
+                case 1 -> both.method(place);
+                default -> both.size(place);
+            }
         }
     }
 
@@ -197,7 +208,7 @@ public final class LongTest {
     private void askRun() {
         both.looks();
         for (int way : new int[] {0, random.nextInt(ways + 1), ways - 1, ways}) {
-            String got = both.way(way, random.nextInt(4));
+            String got = both.way(way, random.nextInt(random.nextInt(7) + 1));
             waysThatStayed += latest == REFUSED && !Beside.isNoAnswer(got) ? 1 : 0;
         }
     }
@@ -220,13 +231,14 @@ public final class LongTest {
 
     private String wrongCall(int kind) {
         int wrong = new int[] {-1, 6, 16, Integer.MIN_VALUE, Integer.MAX_VALUE}[random.nextInt(5)];
+        int wrongColumn = wrong == 6 ? 4 : wrong;
         return switch (kind) {
             case 0 -> both.table(wrong, 1);
             case 1 -> both.table(random.nextInt(6), wrong == 6 ? 17 : wrong);
             case 2 -> both.row(wrong, 1, 2, 3, 4);
             case 3 -> both.generator(wrong);
-            case 4 -> both.equal(0, 0, 0, wrong);
-            case 5 -> both.number(wrong, 0, 1);
+            case 4 -> both.equal(0, wrongColumn, 0, wrongColumn);
+            case 5 -> both.number(0, wrongColumn, 1);
             case 6 -> both.less(0, 0, wrong, 0);
             case 7 -> both.plan(wrong);
             case 8 -> both.method(wrong);
